@@ -7,6 +7,7 @@ public final class TextTest {
         tokens();
         firstLine();
         indexLines();
+        names();
         contractLines();
         tooManyOfASort();
         longTexts();
@@ -87,6 +88,21 @@ public final class TextTest {
         }
         Checks.dueLines(many + ";", 2);
         Checks.dueFault(many + " 7;", many.length() + 1, 2);
+    }
+
+    private static void names() {
+        String three = "month 0;index steel 1;index steal 2;index stee 3;";
+        Checks.dueLines(three, 4);
+        Checks.dueFault(three + "index steal 1;", three.length() + 6, 3);
+        Checks.dueFault(three + "index stee 1;", three.length() + 6, 3);
+        Checks.dueLines(three + "index teel 1;index leets 1;", 6);
+        String contract = "contract 1 = 0 + 1000 ";
+        Checks.dueFault(three + contract + "steels base 0 all 0 share 0;", three.length() + contract.length(), 3);
+        PriceDesk desk = Checks.desk(three + contract + "steal base 0 all 0 share 0;"
+            + "contract 1 = 0 + 500 stee + 500 steel base 0 all 0 share 0;");
+        Checks.due("steal is 1", desk.contract(0, 8), 1);
+        Checks.due("stee is 2", desk.contract(1, 8), 2);
+        Checks.due("steel is 0", desk.contract(1, 10), 0);
     }
 
     private static void contractLines() {
@@ -171,6 +187,7 @@ public final class TextTest {
         Checks.dueFault("month 1;" + " ".repeat(691) + "?  ", 699, 1);
         Checks.dueFault("month " + " ".repeat(693) + "36;", 699, 2);
         Checks.dueFault("month " + " ".repeat(693) + "35;", 700, 1);
+        Checks.dueFault("month " + " ".repeat(694) + "36;", 700, 1);
         Checks.dueFault("month 1;?" + " ".repeat(720), 8, 1);
     }
 
@@ -194,10 +211,15 @@ public final class TextTest {
 
     private static void aNewTextBeginsAnew() {
         PriceDesk desk = Checks.desk("month 1;index a 5 6;index b 5;contract 8 = 0 + 1000 a base 0 all 0 share 100;");
-        desk.rebase(0, 1, 50);
+        desk.publish(1, 1, 9, false);
         desk.deliver(0, 1, 3);
+        desk.rebase(0, 1, 50);
         desk.close();
-        desk.publish(0, 2, 9, false);
+        desk.deliver(0, 2, 3);
+        desk.publish(0, 2, 90, true);
+        desk.close();
+        Checks.due("trued ahead of the new text", desk.amount(1, 1), 21);
+        desk.publish(0, 3, 9, false);
         Checks.due("a new text", Checks.tell(desk, "month 4;index z 2;"), 2);
         Checks.due("NOW", desk.now(0), 4);
         Checks.due("indexes", desk.now(1), 1);
@@ -213,6 +235,10 @@ public final class TextTest {
         Checks.due("no value of 2 left over", desk.value(0, 2, 1), 0);
         Checks.due("no rebasing left over", desk.rebased(0, 0, 0), PriceDesk.NONE);
         Checks.due("no term left over", desk.contract(0, 6), 0);
+        Checks.due("no delivery left over", desk.statement(35, 3), 0);
+        Checks.due("no weight left over", desk.price(0, 3, 0), 1000000);
+        Checks.due("nothing waited for", desk.delivery(desk.deliver(0, 3, 1), 8), 0);
+        Checks.due("settled", desk.close(), 1);
         Checks.due("an empty text", desk.text(), 0);
         Checks.due("nothing told", desk.now(0) + desk.now(1) + desk.now(2), 0);
     }
