@@ -3,8 +3,13 @@ import java.util.NoSuchElementException;
 public final class PriceDesk {
     public static final int NONE = -1;
 
-    private static final int NOT_THERE = -2;
-    private static final int TOO_LATE = -3;
+    private static final int NEVER = -2;
+
+    private static final int FINAL_ALREADY = -2;
+    private static final int NOT_FINAL = -2;
+    private static final int DESK_FULL = -2;
+    private static final int REBASED_LATER = -3;
+    private static final int NOT_LATER = -3;
     private static final int TOO_OFTEN = -4;
 
     private static final int MONTHS = 36;
@@ -173,7 +178,7 @@ public final class PriceDesk {
             return NONE;
         }
         if (book.priceWere(row, moved, MOST_VALUE) <= row.price) {
-            return NOT_THERE;
+            return NEVER;
         }
         // A price never falls as a value grows, so halving finds the least one; ten halvings reach any of 999.
         int least = 1;
@@ -240,10 +245,10 @@ public final class PriceDesk {
         }
         int kind = row.kindAt(month);
         if (kind == FINAL) {
-            return NOT_THERE;
+            return FINAL_ALREADY;
         }
         if (row.latestRebasing() >= month) {
-            return TOO_LATE;
+            return REBASED_LATER;
         }
         int ahead = kind == NO_VALUE ? 0 : row.valueAt(month);
         history.keep(ACT_PUBLISH, index, month, ahead, kind);
@@ -257,10 +262,10 @@ public final class PriceDesk {
             return NONE;
         }
         if (row.kindAt(month) != FINAL) {
-            return NOT_THERE;
+            return NOT_FINAL;
         }
         if (row.latestRebasing() >= month || row.knownMonth(MONTHS - 1) > month) {
-            return TOO_LATE;
+            return NOT_LATER;
         }
         if (row.rebasings >= MOST_REBASINGS) {
             return TOO_OFTEN;
@@ -277,7 +282,7 @@ public final class PriceDesk {
         }
         Delivery fresh = ledger.addRow();
         if (fresh == null) {
-            return NOT_THERE;
+            return DESK_FULL;
         }
         fresh.take(contract, due, book.now, quantity);
         fresh.bill(book.priceFor(row, due), book.priceFor(row, book.now));
