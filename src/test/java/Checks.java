@@ -1,4 +1,7 @@
+import java.io.IOException;
 import java.nio.charset.StandardCharsets;
+import java.nio.file.Files;
+import java.nio.file.Path;
 import java.util.Arrays;
 import java.util.NoSuchElementException;
 
@@ -8,8 +11,11 @@ final class Checks {
         long answer();
     }
 
+    private static final Path DOCUMENT = Path.of("..", "shared", "DOC.md");
+
     private static int checked = 0;
     private static int wrong = 0;
+    private static String document = null;
 
     private Checks() {
     }
@@ -24,6 +30,22 @@ final class Checks {
 
     static void due(String call, boolean got, boolean want) {
         due(call, got ? 1 : 0, want ? 1 : 0);
+    }
+
+    /** What is tested next, in the document's own words: words that it no longer has are to be read again. */
+    static void says(String words) {
+        if (document == null) {
+            document = readDocument();
+        }
+        due("the document says: " + words, document.isEmpty() || document.contains(words), true);
+    }
+
+    private static String readDocument() {
+        try {
+            return Files.exists(DOCUMENT) ? Files.readString(DOCUMENT).replaceAll("\\s+", " ") : "";
+        } catch (IOException e) {
+            return "";
+        }
     }
 
     static void dueNoSuchElement(String call, Call tried) {
