@@ -368,6 +368,8 @@ public final class ContractBoundsTest {
         rising(9999, 998, "all 1 share 100").answers("999 alone, 1002 beyond 1000", 999, desk -> desk.rises(0, 0));
         rising(10, 10, "all 0 share 100").answers("b lifts it already, 1 does", 1, desk -> desk.rises(1, 0));
         rising(10, 10, "all 0 share 100").answers("b a tenth more, both a twentieth", 11, desk -> desk.rises(1, 1));
+        Scene above = new Scene("month 1;index a 10 99;index b 10;contract 10 = 0 + 1000 a base 0 all 0 share 100;");
+        above.answers("above already, whatever b is: 1 is the least", 1, desk -> desk.rises(0, 1));
         Scene scene = rising(9999, 100, "all 0 share 100").then(desk -> desk.publish(0, 1, 999, true));
         scene.answers("whatever is published", 101, desk -> desk.rises(0, 0));
         scene.leavesAll("rises", desk -> desk.rises(0, 0));

@@ -89,6 +89,7 @@ public final class IndexBoundsTest {
 
     private static void known() {
         Checks.says("What is KNOWN of an index for a MONTH: the VALUE of the latest MONTH up to it that has one.");
+        Checks.says("2 what is KNOWN (NONE), 3 the MONTH that this is of (NONE).");
         dueValue(PLAIN, 0, 0, 10, 2, 10, 0);
         dueValue(PLAIN, 0, 1, 20, 2, 20, 1);
         dueValue(PLAIN, 0, 2, NONE, 0, 20, 1);
@@ -162,6 +163,7 @@ public final class IndexBoundsTest {
     }
 
     private static void publishedIndexes() {
+        Checks.says("(0: none). NONE: no such ones;");
         PLAIN.takesBack("publish of 0", 0, desk -> desk.publish(0, 4, 5, false));
         PLAIN.takesBack("publish of 1", 0, desk -> desk.publish(1, 4, 5, false));
         for (int index : new int[] {-1, 2, 5, 6, MIN, MAX}) {
@@ -416,6 +418,7 @@ public final class IndexBoundsTest {
     private static void ratioOfRebasings() {
         Checks.says("the later VALUE times OLD of each rebasing at MONTHS from the first on, "
             + "ahead of the MONTH of the later VALUE, by the first VALUE times NEW of each");
+        Checks.says("those of that MONTH and ahead by the base ahead.");
         Scene scene = new Scene("month 3;index a 100 110;").then(desk -> {
             desk.rebase(0, 1, 55);
             desk.publish(0, 2, 60, true);

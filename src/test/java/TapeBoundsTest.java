@@ -31,6 +31,7 @@ public final class TapeBoundsTest {
         anEmptyText();
         allStays();
         aNewText();
+        whatTextsLeaveBehind();
         kindOfTheLatest();
         zeroAheadOfAny();
         nowWhats();
@@ -261,6 +262,69 @@ public final class TapeBoundsTest {
             anew.refuses("undo()", NONE, PriceDesk::undo);
         }
         BUSY.then(desk -> Checks.tell(desk, "month 0;")).refuses("undo() behind a text", NONE, PriceDesk::undo);
+    }
+
+    /** As much as a text can tell and a desk can hold. */
+    private static void tellAndDoMuch(PriceDesk desk) {
+        StringBuilder text = new StringBuilder("month 34;");
+        for (char name = 'a'; name <= 'f'; name++) {
+            text.append("index ").append(name).append(" 7 8 9;");
+        }
+        for (int k = 0; k < 6; k++) {
+            text.append("contract 9=500+90 a+90 b+90 c+90 d+90 e+50 f base 1 beyond 9 share 99;");
+        }
+        Checks.tell(desk, text.toString());
+        for (int index = 0; index < 6; index++) {
+            desk.rebase(index, 2, 50);
+            desk.publish(index, 33, 60, true);
+            desk.rebase(index, 33, 90);
+            desk.publish(index, 34, 95, true);
+            desk.rebase(index, 34, 98);
+        }
+        for (int k = 0; k < 30; k++) {
+            desk.deliver(k % 6, k % 2 == 0 ? 34 : 3 + k % 7, 1 + k);
+        }
+        desk.close();
+        desk.publish(3, 35, 97, false);
+    }
+
+    private static void whatTextsLeaveBehind() {
+        Scene much = Scene.ofNew().then(TapeBoundsTest::tellAndDoMuch);
+        int[] held = {35, 6, 6, 30, 15, 8, 0};
+        for (int what = 0; what <= 6; what++) {
+            int w = what;
+            much.answers("much: now(" + w + ")", held[w], desk -> desk.now(w));
+        }
+        much.answers("much: a third rebasing", 98, desk -> desk.rebased(5, 2, 2));
+        for (String text : new String[] {"", "month 0;", "month 5;index a 1;contract 4 = 1000 base 5 all 0 share 7;",
+            "month 5;index b 1;index c 2 3;contract 4 = 0 + 1000 c base 0 all 0 share 7;contract 8 = 1000 base 0 all 0 share 7;"}) {
+            Scene anew = Scene.ofNew().then(desk -> Checks.tell(desk, text));
+            // one, two and three rich texts ahead, and faults in between
+            anew.isLike("behind one", Scene.ofNew().then(TapeBoundsTest::tellAndDoMuch).then(desk -> Checks.tell(desk, text)));
+            anew.isLike("behind two", Scene.ofNew().then(desk -> {
+                tellAndDoMuch(desk);
+                desk.text();
+                Checks.tell(desk, text);
+            }));
+            anew.isLike("behind a fault", Scene.ofNew().then(desk -> {
+                tellAndDoMuch(desk);
+                Checks.tell(desk, "month 9;index a 5 6 7;contract 9 = 0 + 1000 a base 1 beyond 8 share 101;");
+                Checks.tell(desk, text);
+            }));
+            Scene.Acts acts = desk -> {
+                for (int index = 0; index < 2; index++) {
+                    desk.publish(index, 4, 9, false);
+                    desk.deliver(index, 5, 3);
+                }
+                desk.close();
+            };
+            anew.then(acts).isLike("acts behind two", Scene.ofNew().then(desk -> {
+                tellAndDoMuch(desk);
+                desk.text();
+                Checks.tell(desk, text);
+                acts.on(desk);
+            }));
+        }
     }
 
     private static void kindOfTheLatest() {

@@ -149,6 +149,10 @@ public final class TextBoundsTest {
         }
         Checks.dueLines(tight.toString(), 3);
         Checks.dueLines(wide + "\n", 3);
+        // what stands ahead of a NAME is none of it
+        Checks.dueLines("month 0;index\na 1;contract 5=0+1000 a base 0" + RULE, 3);
+        Checks.dueLines("month 0;index a 1;contract 5=0+1000\na base 0" + RULE, 3);
+        dueFault("month 0;index a 1;index\n", "a 1;", 3);
     }
 
     private static void goesOn() {
@@ -218,6 +222,8 @@ public final class TextBoundsTest {
         dueFault("", CONTRACT, 1);
         dueFault("", "months 0;", 1);
         dueFault("", "mont 0;", 1);
+        dueFault("", "nonth 0;", 1);
+        dueFault("", "monti 0;", 1);
         dueFault("", "0;", 1);
         dueFault("month 0;", "month 0;", 1);
         dueFault("month 0;index a 1;", "month 0;", 1);
@@ -415,6 +421,7 @@ public final class TextBoundsTest {
     }
 
     private static void termsOfAContract() {
+        Checks.says("'contract' PRICE = FIXED { + WEIGHT NAME } 'base' MONTH ( 'all' | 'beyond' ) LIMIT 'share' PART");
         StringBuilder formula = new StringBuilder(indexes(6) + "contract 5 = 1000");
         for (int terms = 0; terms <= 6; terms++) {
             PriceDesk desk = Checks.desk(formula + " base 0" + RULE);
@@ -440,7 +447,8 @@ public final class TextBoundsTest {
             // one letter less or more is another word
             String less = word.substring(1);
             String other = word.substring(0, word.length() - 1) + "q";
-            for (String near : new String[] {less, other, word.length() < 8 ? word + "s" : "contrac"}) {
+            String first = "q" + less;
+            for (String near : new String[] {less, first, other, word.length() < 8 ? word + "s" : "contrac"}) {
                 Checks.dueLines("month 0;index " + near + " 1;contract 5 = 0 + 1000 " + near + " base 0" + RULE, 3);
             }
         }

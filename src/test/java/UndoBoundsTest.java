@@ -175,6 +175,11 @@ public final class UndoBoundsTest {
     private static void deliverUndone() {
         TOLD.takesBack("a first", 0, desk -> desk.deliver(0, 2, 5));
         TOLD.takesBack("a late one", 0, desk -> desk.deliver(0, 1, 5));
+        Scene none = TOLD.then(desk -> {
+            desk.deliver(1, 2, 5);
+            desk.undo();
+        });
+        none.takesBack("none is left to be settled", 0, PriceDesk::close);
         Scene one = TOLD.then(desk -> desk.deliver(0, 2, 5));
         one.takesBack("a second", 1, desk -> desk.deliver(1, 2, 999));
         Scene anew = one.then(desk -> {
