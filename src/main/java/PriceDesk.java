@@ -982,24 +982,13 @@ public final class PriceDesk {
         }
 
         private boolean readValues(Index index) {
-            if (!readValue(index, 0)) {
-                return false;
-            }
-            for (int month = 1; month <= MONTHS && tape.kind == Tape.NUMBER; month++) {
-                if (!readValue(index, month)) {
+            for (int month = 0; month <= MONTHS && (month == 0 || tape.kind == Tape.NUMBER); month++) {
+                // Of a value too many no number is as told.
+                if (!readNumber(1, month <= book.now ? MOST_VALUE : 0)) {
                     return false;
                 }
+                index.put(month, number, FINAL);
             }
-            return true;
-        }
-
-        private boolean readValue(Index index, int month) {
-            // Of a value too many no number is as told.
-            int most = month <= book.now ? MOST_VALUE : 0;
-            if (!readNumber(1, most)) {
-                return false;
-            }
-            index.put(month, number, FINAL);
             return true;
         }
 
